@@ -5,11 +5,16 @@ final class Check {
   private int wrong;
   private int asked;
 
+  /** The beginning of a long text, so that a wrong answer can be read. */
+  private static String cut(String text) {
+    return text.length() <= 600 ? text : text.substring(0, 600) + " .. " + text.length() + " bytes";
+  }
+
   void due(String what, long got, long want) {
     asked++;
     if (got != want) {
       wrong++;
-      System.out.println(what + ": answered " + got + ", due is " + want);
+      System.out.println(cut(what) + ": answered " + got + ", due is " + want);
     }
   }
 
@@ -17,7 +22,7 @@ final class Check {
     asked++;
     if (!got.equals(want)) {
       wrong++;
-      System.out.println(what + ": answered <" + got + ">, due is <" + want + ">");
+      System.out.println(cut(what) + ": answered <" + got + ">, due is <" + want + ">");
     }
   }
 

@@ -6,6 +6,8 @@ public final class SnakeCore {
   private static final int FUEL_MOST = 20000;
   private static final int NAME_MOST = 12;
   private static final int STRING_MOST = 15;
+  private static final long INT_LOWEST = 1L << 63;
+  private static final long INT_HIGHEST = ~INT_LOWEST;
   private static final long NO_INT = 1L << 62;
   private static final long NOT_BOUND = NO_INT + 1;
 
@@ -677,7 +679,7 @@ public final class SnakeCore {
       number = 0;
       int b = byteAt(position);
       while (position < length && isDigit(b)) {
-        if (number > (Long.MAX_VALUE - (b - '0')) / 10) {
+        if (number > (INT_HIGHEST - (b - '0')) / 10) {
           fail();
           return;
         }
@@ -2074,7 +2076,7 @@ public final class SnakeCore {
     private int negate() {
       long a = stack.lo(0);
       if (kindOf(stack.hi(0)) != INT) return BAD_TYPE;
-      return a == Long.MIN_VALUE ? OVERFLOW : stack.give(1, INT_HI, -a);
+      return a == INT_LOWEST ? OVERFLOW : stack.give(1, INT_HI, -a);
     }
 
     private int add() {
@@ -2125,7 +2127,7 @@ public final class SnakeCore {
       long a = stack.lo(1);
       long b = stack.lo(0);
       long result = a * b;
-      boolean lost = a == -1 ? b == Long.MIN_VALUE : a != 0 && result / a != b;
+      boolean lost = a == -1 ? b == INT_LOWEST : a != 0 && result / a != b;
       return lost ? OVERFLOW : stack.give(2, INT_HI, result);
     }
 
@@ -2134,7 +2136,7 @@ public final class SnakeCore {
       long a = stack.lo(1);
       long b = stack.lo(0);
       if (b == 0) return BY_ZERO;
-      if (a == Long.MIN_VALUE && b == -1) return OVERFLOW;
+      if (a == INT_LOWEST && b == -1) return OVERFLOW;
       return stack.give(2, INT_HI, Math.floorDiv(a, b));
     }
 
@@ -2828,7 +2830,8 @@ public final class SnakeCore {
       heap.link(id, name, base, 0);
       for (int i = attributes - 1; i >= 0; i--) {
         int attribute = operand();
-        heap.append(id, names.nameHi(attribute), names.nameLo(attribute), stack.hi(i + based), stack.lo(i + based));
+        int below = i + based;
+        heap.append(id, names.nameHi(attribute), names.nameLo(attribute), stack.hi(below), stack.lo(below));
       }
       return stack.give(attributes + based, OBJECT_HI, id);
     }

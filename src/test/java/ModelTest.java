@@ -7,7 +7,7 @@ public final class ModelTest {
   private static int shown;
 
   public static void main(String[] args) throws InterruptedException {
-    long seeds = args.length > 0 ? Long.parseLong(args[0]) : 3000;
+    long seeds = args.length > 0 ? Long.parseLong(args[0]) : 5000;
     long from = args.length > 1 ? Long.parseLong(args[1]) : 0;
     Thread thread = new Thread(null, () -> all(from, seeds), "model", 1L << 28);
     thread.start();
@@ -27,7 +27,7 @@ public final class ModelTest {
     int runs = 1 + programs.below(6);
     for (int i = 0; i < runs; i++) {
       String text = programs.below(3) == 0 ? programs.makeBroken() : programs.make();
-      int fuel = programs.below(4) == 0 ? 1 + programs.below(60) : 2000;
+      int fuel = programs.below(4) == 0 ? 1 + programs.below(60) : programs.below(8) == 0 ? 20000 : 2000;
       Check.feed(core, text);
       int want = model.run(text, fuel);
       int got = core.run(fuel);

@@ -2661,7 +2661,7 @@ public final class SnakeCore {
     }
 
     private void endCalls(int open) {
-      while (calls > open && calls > 0) endCall();
+      for (int left = calls; left > open && left > 0; left--) endCall();
     }
 
     /** Lets go what the innermost call holds beside its values. */
